@@ -1,0 +1,58 @@
+import java.util.NoSuchElementException;
+
+/** What the tests share: a call as an object, its answer as a text, and the tale of wrong answers. */
+final class Checks {
+    private static int wrong = 0;
+    private static int done = 0;
+
+    private Checks() {
+    }
+
+    interface Call {
+        int answer();
+    }
+
+    static final String ARGUMENT = "throws.IllegalArgumentException";
+    static final String ELEMENT = "throws.NoSuchElementException";
+    static final String ERROR = "throws.UnsupportedOperationException";
+    static final String STATE = "throws.IllegalStateException";
+
+    /** The answer of a call, or the exact exception that it throws. */
+    static String told(Call call) {
+        try {
+            return Integer.toString(call.answer());
+        } catch (IllegalArgumentException | NoSuchElementException | UnsupportedOperationException
+                | IllegalStateException e) {
+            return "throws." + e.getClass().getSimpleName();
+        }
+    }
+
+    static void due(String what, Call call, int want) {
+        due(what, call, Integer.toString(want));
+    }
+
+    static void due(String what, Call call, String want) {
+        same(what, told(call), want);
+    }
+
+    static void same(String what, String got, String want) {
+        done++;
+        if (!got.equals(want)) {
+            wrong++;
+            if (wrong <= 50) {
+                System.out.println(what + " answered " + got + ", due is " + want);
+            }
+        }
+    }
+
+    static int wrong() {
+        return wrong;
+    }
+
+    static void end() {
+        System.out.println(done + " answers looked at, " + wrong + " wrong");
+        if (wrong != 0) {
+            System.exit(1);
+        }
+    }
+}
