@@ -19,13 +19,12 @@ public final class RandomRunsTest {
         0, 1, -1, 2, 999999999, 1000000000, -999999999, 2147483647, -2147483648, 2147483000, 12000, 16000, 17000};
 
     private long seed;
-    private int object;
+    private final int object;
     private int calls;
     private FilterBench bench;
     private PlainBench plain;
     private final List<String> log = new ArrayList<>();
     private static final int[] tally = new int[4];
-    private static final int[] opsWell = new int[35];
 
     private RandomRunsTest(int object) {
         this.object = object;
@@ -128,26 +127,37 @@ public final class RandomRunsTest {
         }
     }
 
-    private void literal(int filter) {
-        wipe(0, filter);
+    /** A filter that makes an ARRAY or an OBJECT with the old value of its slot somewhere in it, and keeps it. */
+    private void grow() {
+        int filter = draw(4);
+        int slot = draw(8);
+        boolean object = seldom(2);
         int items = 2 + draw(4);
-        int kind = draw(3);
-        token(filter, kind == 0 ? 9 : 23 == draw(30) ? 23 : 9, 0);
-        for (int k = 1; k < items && calls < CALLS - 4; k++) {
-            token(filter, kind == 1 ? 12 : 5, 0);
-            leaf(filter, kind);
+        wipe(0, filter);
+        if (!object) {
+            token(filter, 9, 0);
         }
-        leaf(filter, kind);
+        for (int k = 1; k <= items; k++) {
+            if (k < items) {
+                token(filter, object ? 12 : 5, 0);
+            }
+            if (object) {
+                token(filter, 11, draw(8));
+            }
+            literal(filter);
+        }
+        run(filter, slot);
+        if (plain.count(0) > 0) {
+            keep(slot, 0);
+        }
     }
 
-    private void leaf(int filter, int kind) {
-        if (kind == 1) {
-            token(filter, 11, draw(8));
-        }
-        switch (draw(5)) {
-            case 0: token(filter, 7, draw(8)); break;
-            case 1: token(filter, 8, draw(3)); break;
-            case 2: token(filter, 0, 0); break;
+    private void literal(int filter) {
+        switch (draw(8)) {
+            case 0: case 1: token(filter, 7, draw(8)); break;
+            case 2: token(filter, 8, draw(3)); break;
+            case 3: case 4: token(filter, 0, 0); break;
+            case 5: token(filter, 10, 0); break;
             default: token(filter, 6, drawNumber()); break;
         }
     }
@@ -164,7 +174,7 @@ public final class RandomRunsTest {
         }
         int outputs = plain.count(0);
         int slotKept = number(8);
-        if (outputs > 0) {
+        if (outputs > 0 && seldom(2)) {
             lookAt(slotKept, keep(slotKept, draw(outputs)));
         }
         if (answer.equals(Checks.ERROR) || seldom(10)) {
@@ -196,21 +206,29 @@ public final class RandomRunsTest {
         both("order(" + a + ", " + b + ")", () -> bench.order(a, b), () -> plain.order(a, b));
     }
 
+    private void runs() {
+        for (int k = 0; k < 3; k++) {
+            run(number(4), number(8));
+        }
+        if (seldom(10)) {
+            token(number(4), number(35), number(4));
+        }
+    }
+
     private void all() {
         bench = new FilterBench();
         plain = new PlainBench();
         for (int k = 0; k < 10; k++) {
             letter();
         }
-        while (calls < CALLS - 70) {
+        while (calls < CALLS - 100) {
             switch (draw(12)) {
                 case 0: letter(); break;
                 case 1: wipe(number(2), number(8)); break;
                 case 2: case 3: order(); break;
-                case 4: literal(draw(4)); break;
-                case 5: case 6: case 7: fill(draw(4)); break;
-                case 8: token(number(4), number(35), number(4)); break;
-                default: run(number(4), number(8)); break;
+                case 4: case 5: grow(); break;
+                case 6: case 7: case 8: fill(draw(4)); break;
+                default: runs(); break;
             }
         }
     }

@@ -1,0 +1,119 @@
+import java.util.Arrays;
+import java.util.List;
+
+/** A FilterBench with filters and values as texts. */
+final class Script {
+    static final List<String> OPS = Arrays.asList(
+        "SELF", "FIELD", "INDEX", "EACH", "PIPE", "COMMA", "NUMBER", "STRING", "WORD", "ARRAY", "NOTHING", "OBJECT",
+        "CALC", "COMPARE", "BOTH", "EITHER", "NOT", "IF", "TRY", "OR", "BIND", "VARIABLE", "REDUCE", "LENGTH", "KEYS",
+        "EMPTY", "RAISE", "SORT", "SUM", "RANGE", "ALL", "LIMIT", "HAS", "SELECT", "FLOOR");
+    private static final String[] STRINGS = {"a", "b", "ab", "", "c", "d", "e", "twelve chars"};
+    private static final int SHOWN_SLOT = 7;
+
+    final FilterBench bench = new FilterBench();
+
+    /** A bench with the eight STRINGS above. */
+    static Script withStrings() {
+        Script script = new Script();
+        for (int k = 0; k < STRINGS.length; k++) {
+            script.spell(k, STRINGS[k]);
+        }
+        return script;
+    }
+
+    void spell(int string, String text) {
+        bench.wipe(1, string);
+        for (char c : text.toCharArray()) {
+            bench.letter(string, c);
+        }
+    }
+
+    /** Fills a filter with tokens such as "PIPE EACH FIELD:2". */
+    void fill(int filter, String tokens) {
+        bench.wipe(0, filter);
+        for (String token : tokens.trim().split("\\s+")) {
+            String[] pair = token.split(":");
+            bench.token(filter, OPS.indexOf(pair[0]), pair.length == 1 ? 0 : Integer.parseInt(pair[1]));
+        }
+    }
+
+    String ran(String tokens, int slot) {
+        fill(0, tokens);
+        return ranFilter(0, slot);
+    }
+
+    /** The outputs, then "!" and the FAULT if an ERROR ended the run; or why there are none. */
+    String ranFilter(int filter, int slot) {
+        String told = Checks.told(() -> bench.run(filter, slot));
+        switch (told) {
+            case Checks.STATE: return "no room";
+            case Checks.ELEMENT: return "not right";
+            case Checks.ERROR: return (outputs() + " !" + kept(-1)).trim();
+            default: return outputs();
+        }
+    }
+
+    String outputs() {
+        StringBuilder all = new StringBuilder();
+        for (int k = 0; k < bench.count(0); k++) {
+            all.append(k == 0 ? "" : " ").append(kept(k));
+        }
+        return all.toString();
+    }
+
+    private String kept(int k) {
+        bench.keep(SHOWN_SLOT, k);
+        return shown(SHOWN_SLOT);
+    }
+
+    /** Runs the tokens on slot 0 and keeps the first output there. */
+    void become(String tokens) {
+        fill(0, tokens);
+        bench.run(0, 0);
+        bench.keep(0, 0);
+    }
+
+    private int next;
+
+    String shown(int slot) {
+        next = 0;
+        return shownPart(slot);
+    }
+
+    private String shownPart(int slot) {
+        int i = next++;
+        int length = bench.length(slot, i);
+        switch (bench.kind(slot, i)) {
+            case 0: return "null";
+            case 1: return "false";
+            case 2: return "true";
+            case 3: return java.math.BigDecimal.valueOf(bench.number(slot, i, false), bench.number(slot, i, true))
+                    .toPlainString();
+            case 4: return "'" + letters(slot, i, length, false) + "'";
+            case 5: return "[" + shownParts(slot, length, false) + "]";
+            default: return "{" + shownParts(slot, length, true) + "}";
+        }
+    }
+
+    private String shownParts(int slot, int length, boolean named) {
+        StringBuilder all = new StringBuilder();
+        for (int k = 0; k < length; k++) {
+            all.append(k == 0 ? "" : ",").append(named ? letters(slot, next, 99, true) + ":" : "");
+            all.append(shownPart(slot));
+        }
+        return all.toString();
+    }
+
+    private String letters(int slot, int i, int most, boolean name) {
+        StringBuilder all = new StringBuilder();
+        for (int k = 0; k < most; k++) {
+            int at = k;
+            String told = Checks.told(() -> bench.character(slot, i, at, name));
+            if (told.equals(Checks.ELEMENT)) {
+                return all.toString();
+            }
+            all.append((char) Integer.parseInt(told));
+        }
+        return all.toString();
+    }
+}
