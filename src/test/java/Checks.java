@@ -4,12 +4,18 @@ import java.util.NoSuchElementException;
 final class Checks {
     private static int wrong = 0;
     private static int done = 0;
+    private static int sentences = 0;
+    private static String sentence = "";
 
     private Checks() {
     }
 
     interface Call {
         int answer();
+    }
+
+    interface Test {
+        void look();
     }
 
     static final String ARGUMENT = "throws.IllegalArgumentException";
@@ -27,6 +33,20 @@ final class Checks {
         }
     }
 
+    /** A test of one sentence of the document: each wrong answer in it is told with the promise and the sentence. */
+    static void sentence(String promise, String words, Test test) {
+        sentences++;
+        sentence = promise + ", \"" + words + "\": ";
+        int before = done;
+        try {
+            test.look();
+        } catch (RuntimeException e) {
+            same("the test", "ended by " + e, "ended well");
+        }
+        same("something was looked at", Boolean.toString(done > before), "true");
+        sentence = "";
+    }
+
     static void due(String what, Call call, int want) {
         due(what, call, Integer.toString(want));
     }
@@ -40,7 +60,7 @@ final class Checks {
         if (!got.equals(want)) {
             wrong++;
             if (wrong <= 50) {
-                System.out.println(what + " answered " + got + ", due is " + want);
+                System.out.println(sentence + what + " answered " + got + ", due is " + want);
             }
         }
     }
@@ -50,7 +70,8 @@ final class Checks {
     }
 
     static void end() {
-        System.out.println(done + " answers looked at, " + wrong + " wrong");
+        String of = sentences == 0 ? "" : " for " + sentences + " sentences";
+        System.out.println(done + " answers looked at" + of + ", " + wrong + " wrong");
         if (wrong != 0) {
             System.exit(1);
         }

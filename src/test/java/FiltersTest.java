@@ -6,20 +6,11 @@ public final class FiltersTest {
     private static final String MIXED = "ARRAY COMMA WORD:0 COMMA WORD:1 COMMA WORD:2 COMMA NUMBER:0 STRING:3";
 
     private static void due(String value, String filter, String want) {
-        Script script = Script.withStrings();
-        if (!value.isEmpty()) {
-            script.become(value);
-        }
-        Checks.same(filter + " on " + value, script.ran(filter, 0), want);
+        Script.due(value, filter, want);
     }
 
     private static void dueSteps(String value, String filter, int want) {
-        Script script = Script.withStrings();
-        if (!value.isEmpty()) {
-            script.become(value);
-        }
-        script.ran(filter, 0);
-        Checks.due("steps of " + filter + " on " + value, () -> script.bench.count(1), want);
+        Script.dueSteps(value, filter, want);
     }
 
     private static void plainTokens() {
@@ -88,8 +79,6 @@ public final class FiltersTest {
         due("", "PIPE COMMA NUMBER:1000 RAISE PIPE COMMA SELF STRING:0 RAISE", "!1");
         due("", "COMMA NUMBER:1000 COMMA RAISE NUMBER:2000", "1 !null");
         dueSteps("", "COMMA RAISE NUMBER:2000", 2);
-        // The row is whole before the first of it is gone through.
-        dueSteps("", "PIPE COMMA NUMBER:1000 NUMBER:2000 RAISE", 5);
         due(NUMBERS, "ARRAY EACH", "[3,1.5,-2]");
         due(NUMBERS, "ARRAY EMPTY", "[]");
         due(NUMBERS, "ARRAY COMMA EACH RAISE", "![3,1.5,-2]");
@@ -229,11 +218,9 @@ public final class FiltersTest {
         due("", "LIMIT:2 COMMA NUMBER:1000 COMMA NUMBER:2000 RAISE", "1 2");
         due("", "LIMIT:3 COMMA NUMBER:1000 COMMA NUMBER:2000 RAISE", "1 2 !null");
         due("", "LIMIT:9 RANGE NUMBER:16000", "0 1 2 3 4 5 6 7 8");
-        due("", "LIMIT:2 RANGE NUMBER:17000", "no room");
         due("", "LIMIT:0 RAISE", "");
         due("", "LIMIT:9 NUMBER:1000", "1");
         dueSteps("", "LIMIT:0 RAISE", 1);
-        dueSteps("", "LIMIT:1 COMMA NUMBER:1000 NUMBER:2000", 4);
     }
 
     private static void variables() {
@@ -253,13 +240,11 @@ public final class FiltersTest {
         due(NUMBERS, "REDUCE:0 EMPTY EMPTY RAISE", "null");
         due(NUMBERS, "REDUCE:0 COMMA EACH RAISE NUMBER:0 CALC:0 SELF VARIABLE:0", "![3,1.5,-2]");
         due(NUMBERS, "REDUCE:0 COMMA EACH RAISE NUMBER:0 PIPE STRING:0 RAISE", "!'a'");
-        due(NUMBERS, "REDUCE:0 RAISE PIPE STRING:0 RAISE SELF", "!'a'");
         due("", "COMMA REDUCE:2 NUMBER:1000 SELF SELF VARIABLE:2", "null null");
         due("", "BIND:2 STRING:0 COMMA REDUCE:2 NUMBER:1000 SELF VARIABLE:2 VARIABLE:2", "1 'a'");
         due("", "BIND:2 STRING:0 REDUCE:2 NUMBER:1000 VARIABLE:2 SELF", "'a'");
         due("", "COMMA STRING:0 TRY REDUCE:2 NUMBER:1000 SELF RAISE VARIABLE:2", "'a' null");
         dueSteps(NUMBERS, "REDUCE:0 EACH NUMBER:0 CALC:0 SELF VARIABLE:0", 12);
-        dueSteps(NUMBERS, "REDUCE:0 EACH RAISE SELF", 2);
     }
 
     private static void measures() {
@@ -295,7 +280,6 @@ public final class FiltersTest {
         due("ARRAY COMMA NOTHING SELF", "ALL", "[[],null] [] null");
         due("OBJECT:0 ARRAY COMMA NUMBER:0 OBJECT:1 WORD:2", "ALL", "{a:[0,{b:true}]} [0,{b:true}] 0 {b:true} true");
         due("STRING:0", "ALL", "'a'");
-        dueSteps(TWELVE, "ALL", 1);
         due("NUMBER:1999", "FLOOR", "1");
         due("NUMBER:-1", "FLOOR", "-1");
         due("NUMBER:-2000", "FLOOR", "-2");

@@ -5,48 +5,47 @@ import java.util.Arrays;
 import java.util.List;
 import java.util.NoSuchElementException;
 import java.util.TreeMap;
+import java.util.function.Function;
+import java.util.function.Supplier;
 
 /**
  * The document written down a second time with the whole Java library, and nothing in common with FilterBench:
  * values are null, Boolean, BigDecimal, String, List and TreeMap, and the filter is read as it is worked out.
  */
 final class PlainBench {
+    /**
+     * How the document is read where its words can be taken in more than one way: whether a row is worked out whole
+     * before it is gone through, whether ALL begins anew for each part, whether REDUCE works out E before F.
+     */
+    private record Reading(boolean wholeRows, boolean allForEachPart, boolean reduceRowFirst) {
+    }
+
+    private static final Reading PLAINEST = new Reading(true, false, false);
+
     private static final class NoRoom extends RuntimeException {
         private static final long serialVersionUID = 1L;
     }
 
-    /** A row and, if an ERROR ended it, that ERROR's value. */
-    private static final class Answer {
-        final List<Object> row = new ArrayList<>();
-        boolean failed;
-        Object fault;
+    /** An ERROR with its value. */
+    private static final class Fault extends RuntimeException {
+        private static final long serialVersionUID = 1L;
+        final transient Object value;
 
-        void put(Object v) {
-            row.add(v);
-            if (row.size() > 16) {
-                throw new NoRoom();
-            }
+        Fault(Object value) {
+            super(null, null, false, false);
+            this.value = value;
         }
+    }
 
-        void fail(Object v) {
-            failed = true;
-            fault = v;
-        }
+    /** A row that is worked out as it is asked for: the next value, END behind the last one, or a Fault. */
+    private interface Row {
+        Object next();
+    }
 
-        void fail(int number) {
-            fail(new BigDecimal(number));
-        }
+    private static final Object END = new Object();
 
-        /** Puts another answer behind; says whether to go on. */
-        boolean join(Answer other) {
-            for (Object v : other.row) {
-                put(v);
-            }
-            if (other.failed) {
-                fail(other.fault);
-            }
-            return !failed;
-        }
+    /** What came of a run; outputs is null if there was no ROOM. */
+    private record Outcome(List<Object> outputs, boolean failed, Object fault, int begun) {
     }
 
     /** An expression as a tree. */
@@ -71,7 +70,8 @@ final class PlainBench {
     private int lastBegun;
     private int errors;
     private int roomless;
-    private int reading;
+    private int read;
+    private Reading reading = PLAINEST;
 
     PlainBench() {
         Arrays.fill(strings, "");
@@ -123,28 +123,68 @@ final class PlainBench {
 
     int run(int filter, int slot) {
         need(filter >= 0 && filter <= 3 && slot >= 0 && slot <= 7);
-        reading = 0;
-        Tree tree = read(filters.get(filter), 0);
-        if (tree == null || reading != filters.get(filter).size()) {
+        Tree tree = tree(filter);
+        if (tree == null) {
             throw new NoSuchElementException();
         }
-        begun = 0;
-        fault = null;
-        try {
-            Answer answer = eval(tree, slots[slot], new Object[4]);
-            outputs = answer.row;
-            lastBegun = begun;
-            if (answer.failed) {
-                fault = answer.fault;
-                errors++;
-                throw new UnsupportedOperationException();
-            }
-            return outputs.size();
-        } catch (NoRoom e) {
+        Outcome outcome = outcome(tree, slots[slot], PLAINEST);
+        fault = outcome.fault;
+        lastBegun = outcome.begun;
+        if (outcome.outputs == null) {
             outputs = new ArrayList<>();
-            lastBegun = 0;
             roomless++;
             throw new IllegalStateException();
+        }
+        outputs = outcome.outputs;
+        if (outcome.failed) {
+            errors++;
+            throw new UnsupportedOperationException();
+        }
+        return outputs.size();
+    }
+
+    /** Whether the same comes of a run in all readings of the document; also if the run is refused. */
+    boolean isSure(int filter, int slot) {
+        Tree tree = filter < 0 || filter > 3 || slot < 0 || slot > 7 ? null : tree(filter);
+        if (tree == null) {
+            return true;
+        }
+        Outcome plainest = outcome(tree, slots[slot], PLAINEST);
+        for (int k = 0; k < 8; k++) {
+            Reading other = new Reading((k & 1) != 0, (k & 2) != 0, (k & 4) != 0);
+            if (!plainest.equals(outcome(tree, slots[slot], other))) {
+                return false;
+            }
+        }
+        return true;
+    }
+
+    boolean isRight(int filter) {
+        return tree(filter) != null;
+    }
+
+    boolean isFull(int filter) {
+        return filters.get(filter).size() == 32;
+    }
+
+    boolean isSpelled(int string) {
+        return strings[string].length() == 12;
+    }
+
+    private Outcome outcome(Tree tree, Object v, Reading read) {
+        reading = read;
+        begun = 0;
+        List<Object> row = new ArrayList<>();
+        try {
+            Row all = eval(tree, v, new Object[4]);
+            for (Object x = all.next(); x != END; x = all.next()) {
+                row.add(x);
+            }
+            return new Outcome(row, false, null, begun);
+        } catch (Fault f) {
+            return new Outcome(row, true, f.value, begun);
+        } catch (NoRoom e) {
+            return new Outcome(null, false, null, 0);
         }
     }
 
@@ -225,14 +265,21 @@ final class PlainBench {
         return all;
     }
 
+    /** The filter as a tree, or null if it is not RIGHT. */
+    private Tree tree(int filter) {
+        read = 0;
+        Tree tree = read(filters.get(filter), 0);
+        return read == filters.get(filter).size() ? tree : null;
+    }
+
     private Tree read(List<int[]> tokens, int outer) {
-        if (reading >= tokens.size() || outer > 7) {
+        if (read >= tokens.size() || outer > 7) {
             return null;
         }
         Tree tree = new Tree();
-        tree.op = tokens.get(reading)[0];
-        tree.a = tokens.get(reading)[1];
-        reading++;
+        tree.op = tokens.get(read)[0];
+        tree.a = tokens.get(read)[1];
+        read++;
         for (int k = 0; k < PARTS[tree.op]; k++) {
             Tree part = read(tokens, outer + 1);
             if (part == null) {
@@ -327,93 +374,199 @@ final class PlainBench {
         return Integer.signum(v.size() - w.size());
     }
 
-    private Answer eval(Tree t, Object v, Object[] vars) {
+    private Row eval(Tree t, Object v, Object[] vars) {
+        begin();
+        Row row = atMost16(worked(t, v, vars));
+        return reading.wholeRows ? whole(row) : row;
+    }
+
+    private void begin() {
         begun++;
         if (begun == 151) {
             throw new NoRoom();
         }
-        return switch (PARTS[t.op]) {
-            case 0 -> leaf(t, v, vars);
-            case 1 -> one(t, v, vars);
-            case 2 -> two(t, v, vars);
-            default -> t.op == 17 ? choice(t, v, vars) : reduce(t, v, vars);
+    }
+
+    private static Row atMost16(Row row) {
+        int[] size = {0};
+        return () -> {
+            Object x = row.next();
+            size[0] += x == END ? 0 : 1;
+            if (size[0] > 16) {
+                throw new NoRoom();
+            }
+            return x;
         };
     }
 
-    private Answer leaf(Tree t, Object v, Object[] vars) {
-        Answer out = new Answer();
+    /** The row with all that it needs worked out now. */
+    private static Row whole(Row row) {
+        List<Object> values = new ArrayList<>();
+        try {
+            for (Object x = row.next(); x != END; x = row.next()) {
+                values.add(x);
+            }
+        } catch (Fault f) {
+            Row before = of(values);
+            return () -> {
+                Object x = before.next();
+                if (x == END) {
+                    throw f;
+                }
+                return x;
+            };
+        }
+        return of(values);
+    }
+
+    private static Row of(List<Object> values) {
+        int[] at = {0};
+        return () -> at[0] < values.size() ? values.get(at[0]++) : END;
+    }
+
+    private static Row one(Object v) {
+        return of(Arrays.asList(v));
+    }
+
+    private static Row forEach(Row row, Function<Object, Row> body) {
+        Row[] now = {() -> END};
+        return () -> {
+            while (true) {
+                Object y = now[0].next();
+                if (y != END) {
+                    return y;
+                }
+                Object x = row.next();
+                if (x == END) {
+                    return END;
+                }
+                now[0] = body.apply(x);
+            }
+        };
+    }
+
+    private static Object wrongKind() {
+        throw new Fault(BigDecimal.ONE);
+    }
+
+    /** The one value that is made when it is asked for, or the Fault on the way to it. */
+    private static Row made(Supplier<Object> maker) {
+        boolean[] over = {false};
+        return () -> {
+            if (over[0]) {
+                return END;
+            }
+            over[0] = true;
+            return maker.get();
+        };
+    }
+
+    private Row worked(Tree t, Object v, Object[] vars) {
+        if (t.parts.isEmpty()) {
+            return leaf(t, v, vars);
+        }
+        Tree e = t.parts.get(0);
+        Tree f = t.parts.size() > 1 ? t.parts.get(1) : null;
+        return switch (t.op) {
+            case 2 -> forEach(eval(e, v, vars), i -> made(() -> index(v, i)));
+            case 4 -> forEach(eval(e, v, vars), x -> eval(f, x, vars));
+            case 5 -> comma(e, f, v, vars);
+            case 9 -> made(() -> checked(values(eval(e, v, vars))));
+            case 11 -> forEach(eval(e, v, vars), x -> made(() -> checked(object(strings[t.a], x))));
+            case 12 -> forEach(eval(f, v, vars), y -> forEach(eval(e, v, vars), x -> made(() -> calc(t.a, x, y))));
+            case 13 -> forEach(eval(f, v, vars), y -> forEach(eval(e, v, vars), x -> one(holds(t.a, compare(x, y)))));
+            case 14 -> forEach(eval(e, v, vars), x -> good(x) ? truths(eval(f, v, vars)) : one(false));
+            case 15 -> forEach(eval(e, v, vars), x -> good(x) ? one(true) : truths(eval(f, v, vars)));
+            case 17 -> forEach(eval(e, v, vars), x -> eval(good(x) ? f : t.parts.get(2), v, vars));
+            case 18 -> attempt(e, f, v, vars);
+            case 19 -> alternative(e, f, v, vars);
+            case 20 -> forEach(eval(e, v, vars), x -> eval(f, v, with(vars, t.a, x)));
+            case 22 -> made(() -> reduced(t, v, vars));
+            case 29 -> forEach(eval(e, v, vars), PlainBench::range);
+            case 31 -> limited(t.a, e, v, vars);
+            case 32 -> forEach(eval(e, v, vars), i -> made(() -> has(v, i)));
+            default -> forEach(eval(e, v, vars), x -> good(x) ? one(v) : of(List.of()));
+        };
+    }
+
+    private static TreeMap<String, Object> object(String name, Object v) {
+        TreeMap<String, Object> object = new TreeMap<>();
+        object.put(name, v);
+        return object;
+    }
+
+    private static Object[] with(Object[] vars, int a, Object x) {
+        Object[] inner = vars.clone();
+        inner[a] = x;
+        return inner;
+    }
+
+    private static List<Object> values(Row row) {
+        List<Object> all = new ArrayList<>();
+        for (Object x = row.next(); x != END; x = row.next()) {
+            all.add(x);
+        }
+        return all;
+    }
+
+    private static Row truths(Row row) {
+        return forEach(row, y -> one(good(y)));
+    }
+
+    private static boolean holds(int a, int by) {
+        return new boolean[] {by == 0, by != 0, by < 0, by <= 0, by > 0, by >= 0}[a];
+    }
+
+    private Row leaf(Tree t, Object v, Object[] vars) {
         List<Object> items = items(v);
-        boolean array = v instanceof List;
-        boolean number = v instanceof BigDecimal;
-        switch (t.op) {
-            case 0 -> out.put(v);
-            case 1 -> field(v, strings[t.a], out);
-            case 3 -> {
-                if (items == null) {
-                    out.fail(1);
-                } else {
-                    items.forEach(out::put);
-                }
-            }
-            case 6 -> out.put(checked(new BigDecimal(t.a).movePointLeft(3)));
-            case 7 -> out.put(strings[t.a]);
-            case 8 -> out.put(t.a == 0 ? null : (Object) (t.a == 2));
-            case 10 -> out.put(new ArrayList<>());
-            case 16 -> out.put(!good(v));
-            case 21 -> out.put(vars[t.a]);
-            case 23 -> {
-                if (v instanceof Boolean) {
-                    out.fail(1);
-                } else {
-                    out.put(v == null ? BigDecimal.ZERO : v instanceof BigDecimal d ? d.abs()
-                            : new BigDecimal(v instanceof String s ? s.length() : items.size()));
-                }
-            }
-            case 24 -> keys(v, out);
-            case 25 -> { }
-            case 26 -> out.fail(v);
-            case 27 -> {
-                if (array) {
-                    items.sort(PlainBench::compare);
-                    out.put(items);
-                } else {
-                    out.fail(1);
-                }
-            }
-            case 28 -> {
-                if (array) {
-                    sum(items, out);
-                } else {
-                    out.fail(1);
-                }
-            }
-            case 30 -> {
-                for (Object[] part : parts(v, null)) {
-                    out.put(part[0]);
-                }
-            }
-            default -> {
-                if (number) {
-                    out.put(checked(((BigDecimal) v).setScale(0, RoundingMode.FLOOR)));
-                } else {
-                    out.fail(1);
-                }
-            }
-        }
-        return out;
+        return switch (t.op) {
+            case 0 -> one(v);
+            case 1 -> made(() -> field(v, strings[t.a]));
+            case 3 -> items == null ? made(PlainBench::wrongKind) : of(items);
+            case 6 -> made(() -> checked(new BigDecimal(t.a).movePointLeft(3)));
+            case 7 -> one(strings[t.a]);
+            case 8 -> one(t.a == 0 ? null : (Object) (t.a == 2));
+            case 10 -> one(new ArrayList<>());
+            case 16 -> one(!good(v));
+            case 21 -> one(vars[t.a]);
+            case 23 -> made(() -> measure(v));
+            case 24 -> made(() -> keys(v));
+            case 25 -> of(List.of());
+            case 26 -> made(() -> {
+                throw new Fault(v);
+            });
+            case 27 -> made(() -> v instanceof List ? items.stream().sorted(PlainBench::compare)
+                    .collect(ArrayList::new, ArrayList::add, ArrayList::addAll) : wrongKind());
+            case 28 -> made(() -> v instanceof List ? sum(items) : wrongKind());
+            case 30 -> all(v);
+            default -> made(() -> v instanceof BigDecimal d ? checked(d.setScale(0, RoundingMode.FLOOR)) : wrongKind());
+        };
     }
 
-    private static void field(Object v, String name, Answer out) {
-        if (v == null) {
-            out.put(null);
-        } else if (v instanceof TreeMap<?, ?> m) {
-            out.put(m.get(name));
-        } else {
-            out.fail(1);
+    private Row all(Object v) {
+        List<Object> all = new ArrayList<>();
+        for (Object[] part : parts(v, null)) {
+            if (reading.allForEachPart && !all.isEmpty()) {
+                begin();
+            }
+            all.add(part[0]);
         }
+        return of(all);
     }
 
-    private static void keys(Object v, Answer out) {
+    private static Object measure(Object v) {
+        if (v instanceof BigDecimal d) {
+            return d.abs();
+        }
+        int length = v == null ? 0 : v instanceof String s ? s.length() : items(v) == null ? -1 : items(v).size();
+        return length < 0 ? wrongKind() : new BigDecimal(length);
+    }
+
+    private static Object field(Object v, String name) {
+        return v == null ? null : v instanceof TreeMap<?, ?> m ? m.get(name) : wrongKind();
+    }
+
+    private static Object keys(Object v) {
         List<Object> keys = new ArrayList<>();
         if (v instanceof TreeMap<?, ?> m) {
             keys.addAll(m.keySet());
@@ -422,275 +575,169 @@ final class PlainBench {
                 keys.add(new BigDecimal(k));
             }
         } else {
-            out.fail(1);
-            return;
+            wrongKind();
         }
-        out.put(keys);
+        return keys;
     }
 
-    private static void sum(List<Object> items, Answer out) {
+    private static Object sum(List<Object> items) {
         Object sum = null;
         for (Object item : items) {
-            Answer next = new Answer();
-            calc(0, sum, item, next);
-            if (next.failed) {
-                out.fail(next.fault);
-                return;
-            }
-            sum = next.row.get(0);
+            sum = calc(0, sum, item);
         }
-        out.put(sum);
+        return sum;
     }
 
-    private Answer one(Tree t, Object v, Object[] vars) {
-        Answer out = new Answer();
-        if (t.op == 31 && t.a == 0) {
-            return out;
-        }
-        Answer in = eval(t.parts.get(0), v, vars);
-        if (t.op == 9) {
-            if (in.failed) {
-                out.fail(in.fault);
-            } else {
-                out.put(checked(in.row));
-            }
-            return out;
-        }
-        if (t.op == 31) {
-            in.row.stream().limit(t.a).forEach(out::put);
-            if (in.failed && in.row.size() < t.a) {
-                out.fail(in.fault);
-            }
-            return out;
-        }
-        for (Object x : in.row) {
-            Answer of = new Answer();
-            switch (t.op) {
-                case 2 -> index(v, x, of);
-                case 11 -> {
-                    TreeMap<String, Object> object = new TreeMap<>();
-                    object.put(strings[t.a], x);
-                    of.put(checked(object));
-                }
-                case 29 -> range(x, of);
-                case 32 -> has(v, x, of);
-                default -> {
-                    if (good(x)) {
-                        of.put(v);
-                    }
-                }
-            }
-            if (!out.join(of)) {
-                return out;
-            }
-        }
-        if (in.failed) {
-            out.fail(in.fault);
-        }
-        return out;
-    }
-
-    private static void index(Object v, Object i, Answer out) {
+    private static Object index(Object v, Object i) {
         if (v == null) {
-            out.put(null);
-        } else if (v instanceof List<?> l && i instanceof BigDecimal d) {
+            return null;
+        }
+        if (v instanceof List<?> l && i instanceof BigDecimal d) {
             int k = d.setScale(0, RoundingMode.FLOOR).intValueExact();
             k = k < 0 ? k + l.size() : k;
-            out.put(k >= 0 && k < l.size() ? l.get(k) : null);
-        } else if (v instanceof TreeMap && i instanceof String s) {
-            field(v, s, out);
-        } else {
-            out.fail(1);
+            return k >= 0 && k < l.size() ? l.get(k) : null;
         }
+        return v instanceof TreeMap && i instanceof String s ? field(v, s) : wrongKind();
     }
 
-    private static void has(Object v, Object i, Answer out) {
+    private static Object has(Object v, Object i) {
         if (v instanceof TreeMap<?, ?> m && i instanceof String s) {
-            out.put(m.containsKey(s));
-        } else if (v instanceof List<?> l && i instanceof BigDecimal d) {
-            out.put(d.signum() >= 0 && d.compareTo(new BigDecimal(l.size())) < 0);
-        } else {
-            out.fail(1);
+            return m.containsKey(s);
         }
+        if (v instanceof List<?> l && i instanceof BigDecimal d) {
+            return d.signum() >= 0 && d.compareTo(new BigDecimal(l.size())) < 0;
+        }
+        return wrongKind();
     }
 
-    private static void range(Object n, Answer out) {
-        if (n instanceof BigDecimal d) {
-            for (BigDecimal k = BigDecimal.ZERO; k.compareTo(d) < 0; k = k.add(BigDecimal.ONE)) {
-                out.put(k);
-            }
-        } else {
-            out.fail(1);
+    private static Row range(Object n) {
+        if (!(n instanceof BigDecimal d)) {
+            return made(PlainBench::wrongKind);
         }
+        BigDecimal[] k = {BigDecimal.ZERO};
+        return () -> {
+            BigDecimal now = k[0];
+            k[0] = now.add(BigDecimal.ONE);
+            return now.compareTo(d) < 0 ? now : END;
+        };
     }
 
-    private Answer two(Tree t, Object v, Object[] vars) {
-        Tree e = t.parts.get(0);
-        Tree f = t.parts.get(1);
-        if (t.op == 12 || t.op == 13) {
-            return pairs(t, v, vars);
-        }
-        Answer in = eval(e, v, vars);
-        Answer out = new Answer();
-        if (t.op == 5) {
-            if (out.join(in)) {
-                out.join(eval(f, v, vars));
+    private Row comma(Tree e, Tree f, Object v, Object[] vars) {
+        Row first = eval(e, v, vars);
+        Row[] second = {null};
+        return () -> {
+            Object x = second[0] == null ? first.next() : END;
+            if (x != END) {
+                return x;
             }
-            return out;
-        }
-        if (t.op == 18) {
-            in.row.forEach(out::put);
-            if (in.failed) {
-                out.join(eval(f, in.fault, vars));
+            if (second[0] == null) {
+                second[0] = eval(f, v, vars);
             }
-            return out;
-        }
-        if (t.op == 19) {
-            in.row.stream().filter(PlainBench::good).forEach(out::put);
-            return out.row.isEmpty() ? eval(f, v, vars) : out;
-        }
-        for (Object x : in.row) {
-            if (!out.join(forOne(t, v, x, vars))) {
-                return out;
-            }
-        }
-        if (in.failed) {
-            out.fail(in.fault);
-        }
-        return out;
+            return second[0].next();
+        };
     }
 
-    /** What comes of one x of E for PIPE, BIND, BOTH and EITHER. */
-    private Answer forOne(Tree t, Object v, Object x, Object[] vars) {
-        Tree f = t.parts.get(1);
-        if (t.op == 4) {
-            return eval(f, x, vars);
-        }
-        if (t.op == 20) {
-            Object[] inner = vars.clone();
-            inner[t.a] = x;
-            return eval(f, v, inner);
-        }
-        Answer out = new Answer();
-        if (t.op == 14 && !good(x)) {
-            out.put(false);
-        } else if (t.op == 15 && good(x)) {
-            out.put(true);
-        } else {
-            Answer ys = eval(f, v, vars);
-            ys.row.forEach(y -> out.put(good(y)));
-            if (ys.failed) {
-                out.fail(ys.fault);
-            }
-        }
-        return out;
-    }
-
-    private Answer pairs(Tree t, Object v, Object[] vars) {
-        Answer out = new Answer();
-        Answer ys = eval(t.parts.get(1), v, vars);
-        for (Object y : ys.row) {
-            Answer xs = eval(t.parts.get(0), v, vars);
-            for (Object x : xs.row) {
-                Answer of = new Answer();
-                if (t.op == 12) {
-                    calc(t.a, x, y, of);
-                } else {
-                    int by = compare(x, y);
-                    boolean[] holds = {by == 0, by != 0, by < 0, by <= 0, by > 0, by >= 0};
-                    of.put(holds[t.a]);
+    private Row attempt(Tree e, Tree f, Object v, Object[] vars) {
+        Row[] now = {eval(e, v, vars)};
+        boolean[] caught = {false};
+        return () -> {
+            try {
+                return now[0].next();
+            } catch (Fault fault) {
+                if (caught[0]) {
+                    throw fault;
                 }
-                if (!out.join(of)) {
-                    return out;
-                }
+                caught[0] = true;
+                now[0] = eval(f, fault.value, vars);
+                return now[0].next();
             }
-            if (xs.failed) {
-                out.fail(xs.fault);
-                return out;
-            }
-        }
-        if (ys.failed) {
-            out.fail(ys.fault);
-        }
-        return out;
+        };
     }
 
-    private static void calc(int a, Object x, Object y, Answer out) {
+    private Row alternative(Tree e, Tree f, Object v, Object[] vars) {
+        Row row = eval(e, v, vars);
+        boolean[] some = {false};
+        Row[] other = {null};
+        return () -> {
+            Object x = other[0] != null ? other[0].next() : nextGood(row);
+            some[0] |= x != END;
+            if (some[0] || other[0] != null) {
+                return x;
+            }
+            other[0] = eval(f, v, vars);
+            return other[0].next();
+        };
+    }
+
+    private static Object nextGood(Row row) {
+        try {
+            Object x = row.next();
+            while (x != END && !good(x)) {
+                x = row.next();
+            }
+            return x;
+        } catch (Fault f) {
+            return END;
+        }
+    }
+
+    private Row limited(int most, Tree e, Object v, Object[] vars) {
+        if (most == 0) {
+            return of(List.of());
+        }
+        Row row = eval(e, v, vars);
+        int[] left = {most};
+        return () -> left[0]-- > 0 ? row.next() : END;
+    }
+
+    private Object reduced(Tree t, Object v, Object[] vars) {
+        Row early = reading.reduceRowFirst ? eval(t.parts.get(0), v, vars) : null;
+        List<Object> firsts = values(eval(t.parts.get(1), v, vars));
+        Object z = firsts.isEmpty() ? null : firsts.get(0);
+        Row row = early != null ? early : eval(t.parts.get(0), v, vars);
+        for (Object x = row.next(); x != END; x = row.next()) {
+            List<Object> next = values(eval(t.parts.get(2), z, with(vars, t.a, x)));
+            z = next.isEmpty() ? null : next.get(next.size() - 1);
+        }
+        return z;
+    }
+
+    private static Object calc(int a, Object x, Object y) {
         if (a == 0 && (x == null || y == null)) {
-            out.put(x == null ? y : x);
-        } else if (x instanceof BigDecimal d && y instanceof BigDecimal e) {
-            calcNumbers(a, d, e, out);
-        } else if (a == 0 && x instanceof String s && y instanceof String r) {
-            out.put(checked(s + r));
-        } else if (a == 0 && x instanceof List && y instanceof List) {
-            List<Object> both = items(x);
-            both.addAll(items(y));
-            out.put(checked(both));
-        } else if (a == 0 && x instanceof TreeMap<?, ?> m && y instanceof TreeMap<?, ?> n) {
+            return x == null ? y : x;
+        }
+        if (x instanceof BigDecimal d && y instanceof BigDecimal e) {
+            return calcNumbers(a, d, e);
+        }
+        if (a == 0 && x instanceof String s && y instanceof String r) {
+            return checked(s + r);
+        }
+        if (x instanceof List && y instanceof List && a < 2) {
+            List<Object> left = items(x);
+            if (a == 0) {
+                left.addAll(items(y));
+            } else {
+                left.removeIf(item -> items(y).stream().anyMatch(other -> compare(item, other) == 0));
+            }
+            return checked(left);
+        }
+        if (a == 0 && x instanceof TreeMap<?, ?> m && y instanceof TreeMap<?, ?> n) {
             TreeMap<String, Object> both = new TreeMap<>();
             m.forEach((name, value) -> both.put((String) name, value));
             n.forEach((name, value) -> both.put((String) name, value));
-            out.put(checked(both));
-        } else if (a == 1 && x instanceof List && y instanceof List) {
-            List<Object> left = items(x);
-            left.removeIf(item -> items(y).stream().anyMatch(other -> compare(item, other) == 0));
-            out.put(left);
-        } else {
-            out.fail(1);
+            return checked(both);
         }
+        return wrongKind();
     }
 
-    private static void calcNumbers(int a, BigDecimal x, BigDecimal y, Answer out) {
-        if (a == 3) {
-            BigDecimal divisor = y.setScale(0, RoundingMode.DOWN);
-            if (divisor.signum() == 0) {
-                out.fail(2);
-            } else {
-                out.put(checked(x.setScale(0, RoundingMode.DOWN).remainder(divisor)));
-            }
-            return;
+    private static Object calcNumbers(int a, BigDecimal x, BigDecimal y) {
+        if (a < 3) {
+            return checked(a == 0 ? x.add(y) : a == 1 ? x.subtract(y) : x.multiply(y));
         }
-        out.put(checked(a == 0 ? x.add(y) : a == 1 ? x.subtract(y) : x.multiply(y)));
-    }
-
-    private Answer choice(Tree t, Object v, Object[] vars) {
-        Answer out = new Answer();
-        Answer in = eval(t.parts.get(0), v, vars);
-        for (Object x : in.row) {
-            if (!out.join(eval(t.parts.get(good(x) ? 1 : 2), v, vars))) {
-                return out;
-            }
+        BigDecimal divisor = y.setScale(0, RoundingMode.DOWN);
+        if (divisor.signum() == 0) {
+            throw new Fault(new BigDecimal(2));
         }
-        if (in.failed) {
-            out.fail(in.fault);
-        }
-        return out;
-    }
-
-    private Answer reduce(Tree t, Object v, Object[] vars) {
-        Answer out = new Answer();
-        Answer first = eval(t.parts.get(1), v, vars);
-        if (first.failed) {
-            out.fail(first.fault);
-            return out;
-        }
-        Object z = first.row.isEmpty() ? null : first.row.get(0);
-        Answer in = eval(t.parts.get(0), v, vars);
-        for (Object x : in.row) {
-            Object[] inner = vars.clone();
-            inner[t.a] = x;
-            Answer next = eval(t.parts.get(2), z, inner);
-            if (next.failed) {
-                out.fail(next.fault);
-                return out;
-            }
-            z = next.row.isEmpty() ? null : next.row.get(next.row.size() - 1);
-        }
-        if (in.failed) {
-            out.fail(in.fault);
-        } else {
-            out.put(z);
-        }
-        return out;
+        return checked(x.setScale(0, RoundingMode.DOWN).remainder(divisor));
     }
 }

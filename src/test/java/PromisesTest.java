@@ -42,7 +42,6 @@ public final class PromisesTest {
             Checks.due("letter " + k, () -> x.letter(0, 'x'), k);
         }
         Checks.due("letter 13", () -> x.letter(0, 'x'), Checks.STATE);
-        Checks.due("a wrong letter behind the 12th", () -> x.letter(0, 31), Checks.ARGUMENT);
         Checks.due("another STRING", () -> x.letter(7, 'y'), 1);
         Script script = new Script();
         script.spell(5, " ~'\"");
@@ -74,8 +73,6 @@ public final class PromisesTest {
             Checks.due("token " + k, () -> x.token(3, 0, 0), k);
         }
         Checks.due("token 33", () -> x.token(3, 0, 0), Checks.STATE);
-        Checks.due("a wrong token behind the 32nd", () -> x.token(3, 35, 0), Checks.ARGUMENT);
-        Checks.due("a wrong choice behind the 32nd", () -> x.token(3, 1, 8), Checks.ARGUMENT);
         Checks.due("another filter", () -> x.token(2, 0, 0), 1);
     }
 
@@ -151,7 +148,6 @@ public final class PromisesTest {
         }
         for (int bad : BAD_OF_8) {
             Checks.due("run(0, " + bad + ")", () -> x.run(0, bad), Checks.ARGUMENT);
-            Checks.due("run(3, " + bad + ") of no RIGHT filter", () -> x.run(3, bad), Checks.ARGUMENT);
         }
         Checks.due("run of an empty filter", () -> x.run(3, 0), Checks.ELEMENT);
         Checks.due("OUTPUTS behind refused runs", () -> x.count(0), 2);
@@ -175,7 +171,6 @@ public final class PromisesTest {
         Checks.due("run", () -> x.run(0, 0), Checks.ERROR);
         for (int bad : BAD_OF_8) {
             Checks.due("keep(" + bad + ", 0)", () -> x.keep(bad, 0), Checks.ARGUMENT);
-            Checks.due("keep(" + bad + ", 99)", () -> x.keep(bad, 99), Checks.ARGUMENT);
         }
         for (int bad : new int[] {-2, 2, MANY, FEW}) {
             Checks.due("keep(0, " + bad + ")", () -> x.keep(0, bad), Checks.ELEMENT);
@@ -224,7 +219,7 @@ public final class PromisesTest {
         }
         for (int bad : BAD_OF_8) {
             Checks.due("kind(" + bad + ", 0)", () -> x.kind(bad, 0), Checks.ARGUMENT);
-            Checks.due("length(" + bad + ", -1)", () -> x.length(bad, -1), Checks.ARGUMENT);
+            Checks.due("length(" + bad + ", 0)", () -> x.length(bad, 0), Checks.ARGUMENT);
             Checks.due("number(" + bad + ", 0, false)", () -> x.number(bad, 0, false), Checks.ARGUMENT);
             Checks.due("character(" + bad + ", 0, 0, false)", () -> x.character(bad, 0, 0, false), Checks.ARGUMENT);
         }

@@ -24,7 +24,8 @@ public final class RandomRunsTest {
     private FilterBench bench;
     private PlainBench plain;
     private final List<String> log = new ArrayList<>();
-    private static final int[] tally = new int[4];
+    private static final int[] tally = new int[5];
+    private boolean spoiled;
 
     private RandomRunsTest(int object) {
         this.object = object;
@@ -40,13 +41,25 @@ public final class RandomRunsTest {
         return draw(oneIn) == 0;
     }
 
-    /** Mostly a number below the end, now and then one out of range. */
+    /**
+     * Mostly a number below the end, now and then one out of range, but one in a call at most: which of two refusals
+     * comes first is not said.
+     */
     private int number(int end) {
-        return seldom(60) ? (seldom(2) ? -1 - draw(3) : end + draw(3)) : draw(end);
+        if (spoiled || !seldom(60)) {
+            return draw(end);
+        }
+        spoiled = true;
+        return seldom(2) ? -1 - draw(3) : end + draw(3);
+    }
+
+    private int numberIf(boolean free, int end) {
+        return free ? number(end) : draw(end);
     }
 
     private String both(String call, Checks.Call ofBench, Checks.Call ofPlain) {
         calls++;
+        spoiled = false;
         String got = Checks.told(ofBench);
         String want = Checks.told(ofPlain);
         log.add(call + " -> " + want);
@@ -78,7 +91,8 @@ public final class RandomRunsTest {
 
     private void letter() {
         int string = number(8);
-        int character = seldom(20) ? number(128) : 97 + draw(3);
+        boolean free = !spoiled && !plain.isSpelled(string);
+        int character = free && seldom(20) ? draw(140) : 97 + draw(3);
         both("letter(" + string + ", " + character + ")",
                 () -> bench.letter(string, character), () -> plain.letter(string, character));
     }
@@ -163,6 +177,10 @@ public final class RandomRunsTest {
     }
 
     private void run(int filter, int slot) {
+        if (!plain.isSure(filter, slot)) {
+            tally[4]++;
+            return;
+        }
         String answer = both("run(" + filter + ", " + slot + ")",
                 () -> bench.run(filter, slot), () -> plain.run(filter, slot));
         tally[answer.equals(Checks.ERROR) ? 1 : answer.equals(Checks.STATE) ? 2 : answer.startsWith("t") ? 3 : 0]++;
@@ -181,14 +199,15 @@ public final class RandomRunsTest {
             keep(number(8), -1);
         }
         if (seldom(20)) {
-            keep(number(8), outputs - 1 + draw(3));
+            int k = outputs - 1 + draw(3);
+            keep(numberIf(k < outputs, 8), k);
         }
     }
 
     private void lookAt(int slot, String size) {
         int parts = size.startsWith("t") ? 1 : Integer.parseInt(size);
         for (int looks = 0; looks < 3; looks++) {
-            int i = number(parts);
+            int i = numberIf(slot >= 0 && slot < 8, parts);
             both("kind(" + slot + ", " + i + ")", () -> bench.kind(slot, i), () -> plain.kind(slot, i));
             both("length(" + slot + ", " + i + ")", () -> bench.length(slot, i), () -> plain.length(slot, i));
             boolean flag = seldom(2);
@@ -208,10 +227,13 @@ public final class RandomRunsTest {
 
     private void runs() {
         for (int k = 0; k < 3; k++) {
-            run(number(4), number(8));
+            int filter = number(4);
+            run(filter, numberIf(!spoiled && plain.isRight(filter), 8));
         }
         if (seldom(10)) {
-            token(number(4), number(35), number(4));
+            int filter = number(4);
+            boolean free = !spoiled && !plain.isFull(filter);
+            token(filter, free ? number(35) : 0, free ? number(4) : 0);
         }
     }
 
@@ -238,7 +260,7 @@ public final class RandomRunsTest {
             new RandomRunsTest(object).all();
         }
         System.out.println("runs that ended well " + tally[0] + ", by an ERROR " + tally[1] + ", without ROOM " + tally[2]
-                + ", refused " + tally[3]);
+                + ", refused " + tally[3] + ", not made because the document can be read in two ways " + tally[4]);
         Checks.end();
     }
 }

@@ -48,29 +48,63 @@ final class Script {
         switch (told) {
             case Checks.STATE: return "no room";
             case Checks.ELEMENT: return "not right";
-            case Checks.ERROR: return (outputs() + " !" + kept(-1)).trim();
+            case Checks.ERROR: return (outputs() + " !" + fault()).trim();
             default: return outputs();
         }
     }
 
     String outputs() {
+        return outputs(SHOWN_SLOT);
+    }
+
+    /** All OUTPUTS, one behind the other kept in a slot. */
+    String outputs(int slot) {
         StringBuilder all = new StringBuilder();
         for (int k = 0; k < bench.count(0); k++) {
-            all.append(k == 0 ? "" : " ").append(kept(k));
+            bench.keep(slot, k);
+            all.append(k == 0 ? "" : " ").append(shown(slot));
         }
         return all.toString();
     }
 
-    private String kept(int k) {
-        bench.keep(SHOWN_SLOT, k);
+    private String fault() {
+        bench.keep(SHOWN_SLOT, -1);
         return shown(SHOWN_SLOT);
     }
 
     /** Runs the tokens on slot 0 and keeps the first output there. */
     void become(String tokens) {
-        fill(0, tokens);
-        bench.run(0, 0);
-        bench.keep(0, 0);
+        become(0, tokens);
+    }
+
+    /** Runs the steps, parted by ";", one behind the other on a slot and keeps the first output there. */
+    void become(int slot, String steps) {
+        for (String tokens : steps.split(";")) {
+            fill(0, tokens);
+            bench.run(0, slot);
+            bench.keep(slot, 0);
+        }
+    }
+
+    /** Looks at what comes of a filter on the value that the steps make; no steps make NULL. */
+    static void due(String steps, String filter, String want) {
+        Checks.same(filter + " on " + steps, with(steps).ran(filter, 0), want);
+    }
+
+    /** Looks at how often tokens begin to be worked out. */
+    static void dueSteps(String steps, String filter, int want) {
+        Script script = with(steps);
+        script.ran(filter, 0);
+        Checks.due("steps of " + filter + " on " + steps, () -> script.bench.count(1), want);
+    }
+
+    /** A bench with the eight STRINGS and, in slot 0, the value that the steps make. */
+    static Script with(String steps) {
+        Script script = withStrings();
+        if (!steps.isEmpty()) {
+            script.become(0, steps);
+        }
+        return script;
     }
 
     private int next;
