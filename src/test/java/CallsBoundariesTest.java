@@ -302,6 +302,16 @@ public final class CallsBoundariesTest {
         Standing standing = new Standing();
         Checks.due("run(3, 0)", () -> standing.bench.run(3, 0), Checks.ERROR);
         standing.dueAll("a run that an ERROR ends", "2 8 2 1", Standing.OUTPUTS, Standing.FAULT);
+        String[] filters = {"COMMA NUMBER:5000 EACH", "COMMA NUMBER:5000 CALC:3 NUMBER:1000 NUMBER:0",
+            "COMMA NUMBER:5000 PIPE STRING:7 RAISE"};
+        String[] values = {"1", "2", "'twelve chars'"};
+        for (int k = 0; k < filters.length; k++) {
+            Standing other = new Standing();
+            other.script.fill(0, filters[k]);
+            Checks.due("run of " + filters[k], () -> other.bench.run(0, 1), Checks.ERROR);
+            other.script.fill(0, "RANGE NUMBER:2000");
+            other.dueAll(filters[k], "1 " + filters[k].split(" ").length + " 2 1", "5", values[k]);
+        }
         Script script = Script.withStrings();
         Checks.same("no values before", script.ran("RAISE", 0), "!null");
         Checks.due("count(0)", () -> script.bench.count(0), 0);
@@ -317,15 +327,22 @@ public final class CallsBoundariesTest {
     }
 
     private static void runWithoutRoom() {
-        Standing standing = new Standing();
-        standing.script.fill(0, "COMMA SELF RANGE NUMBER:17000");
-        Checks.due("run without ROOM", () -> standing.bench.run(0, 0), Checks.STATE);
-        for (int k = 0; k < 3; k++) {
-            int n = k;
-            Checks.due("keep of OUTPUT " + n, () -> standing.bench.keep(1, n), Checks.ELEMENT);
+        String[] roomless = {
+            "COMMA SELF RANGE NUMBER:17000", "COMMA SELF NUMBER:1000000001", "COMMA SELF CALC:0 STRING:7 STRING:0",
+            "COMMA SELF ARRAY RANGE NUMBER:13000", "COMMA SELF ARRAY ARRAY ARRAY ARRAY ARRAY NOTHING",
+            "COMMA SELF PIPE ARRAY RANGE NUMBER:12000 ARRAY COMMA SELF SELF",
+            "COMMA SELF REDUCE:0 RANGE NUMBER:16000 SELF CALC:0 RANGE NUMBER:4000 RANGE NUMBER:4000"};
+        for (String filter : roomless) {
+            Standing standing = new Standing();
+            standing.script.fill(0, filter);
+            Checks.due("run of " + filter, () -> standing.bench.run(0, 0), Checks.STATE);
+            for (int k = 0; k < 3; k++) {
+                int n = k;
+                Checks.due("keep of OUTPUT " + n, () -> standing.bench.keep(1, n), Checks.ELEMENT);
+            }
+            standing.script.fill(0, "RANGE NUMBER:2000");
+            standing.dueAll(filter, "0 0 1 2", "", "null");
         }
-        standing.script.fill(0, "RANGE NUMBER:2000");
-        standing.dueAll("a run without ROOM", "0 0 1 2", "", "null");
     }
 
     private static void faults() {
@@ -716,7 +733,8 @@ public final class CallsBoundariesTest {
     private static void newObjects() {
         String p = "Promise 1 A new object";
         test(p, "makes an object in the state that the terms give.", CallsBoundariesTest::stateAtFirst);
-        test(p + ", beside others", "makes an object in the state that the terms give.", CallsBoundariesTest::objectsApart);
+        test(p + ", beside others", "makes an object in the state that the terms give.",
+                CallsBoundariesTest::objectsApart);
         test("Promises 1 to 12", "An object is used for at most 512 calls after it has been made",
                 CallsBoundariesTest::calls512);
     }
@@ -750,7 +768,8 @@ public final class CallsBoundariesTest {
 
     private static void runs() {
         String p = "Promise 5 run";
-        test(p, "The filter on the value of a slot: the OUTPUTS are its row: how many.", CallsBoundariesTest::runOutputs);
+        test(p, "The filter on the value of a slot: the OUTPUTS are its row: how many.",
+                CallsBoundariesTest::runOutputs);
         test(p, "IllegalArgumentException: numbers out of range", CallsBoundariesTest::runRanges);
         test(p, "NoSuchElementException: the filter is not RIGHT. With these nothing changes.",
                 CallsBoundariesTest::runNotRight);
@@ -762,7 +781,8 @@ public final class CallsBoundariesTest {
 
     private static void keepings() {
         String p = "Promise 6 keep";
-        test(p, "The slot gets OUTPUT k (from 0), or the FAULT for k -1: the value's SIZE.", CallsBoundariesTest::keeps);
+        test(p, "The slot gets OUTPUT k (from 0), or the FAULT for k -1: the value's SIZE.",
+                CallsBoundariesTest::keeps);
         test(p + ", behind other calls", "The slot gets OUTPUT k (from 0)", CallsBoundariesTest::keepOfOutputsThatStay);
         test(p, "IllegalArgumentException: the slot", CallsBoundariesTest::keepRefused);
         test(p, "NoSuchElementException: there is no such OUTPUT.", CallsBoundariesTest::keepOfNoOutput);
@@ -778,8 +798,10 @@ public final class CallsBoundariesTest {
         test("Promise 8 length", "0 for other kinds. Likewise.", CallsBoundariesTest::lengthsOfOthers);
         test("Promise 9 number", "M of the NUMBER that PART i is, or S (scale)", CallsBoundariesTest::numbers);
         test("Promise 9 number", "or S (scale); 0 for other kinds.", CallsBoundariesTest::numbersOfOthers);
-        test("Promise 10 character", "Character k (from 0) of the TEXT that PART i is", CallsBoundariesTest::characters);
-        test("Promise 10 character", "or, with name, of its name, if it is a member's value.", CallsBoundariesTest::names);
+        test("Promise 10 character", "Character k (from 0) of the TEXT that PART i is",
+                CallsBoundariesTest::characters);
+        test("Promise 10 character", "or, with name, of its name, if it is a member's value.",
+                CallsBoundariesTest::names);
         test("Promise 10 character", "Likewise, and NoSuchElementException if there is none.",
                 CallsBoundariesTest::charactersRefused);
     }

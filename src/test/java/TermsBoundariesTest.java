@@ -265,15 +265,17 @@ public final class TermsBoundariesTest {
         script.become(0, "ARRAY COMMA WORD:2 ARRAY COMMA NUMBER:1500 COMMA STRING:7 OBJECT:2 STRING:0");
         script.become(1, "ARRAY COMMA NUMBER:7 COMMA STRING:2 COMMA ARRAY RANGE NUMBER:3000 NUMBER:9");
         script.become(2, "ARRAY RANGE NUMBER:12000");
-        for (int run = 0; run < 5; run++) {
-            Checks.same("DEPTH 3 in 2 more", script.ran("LENGTH", 0) + script.ran("PIPE ARRAY ARRAY SELF LENGTH", 0), "21");
+        for (int round = 0; round < 3; round++) {
+            Checks.same("DEPTH 3 in 2 more", script.ran("PIPE ARRAY ARRAY SELF LENGTH", 0), "1");
             Checks.same("DEPTH 3 in 3 more", script.ran("ARRAY OBJECT:0 ARRAY SELF", 0), "no room");
             Checks.same("DEPTH 2 in 3 more", script.ran("PIPE ARRAY ARRAY OBJECT:7 SELF LENGTH", 1), "1");
             Checks.same("DEPTH 2 in 4 more", script.ran("ARRAY ARRAY ARRAY OBJECT:7 SELF", 1), "no room");
             Checks.same("DEPTH 1 in 4 more", script.ran("PIPE ARRAY ARRAY ARRAY ARRAY SELF LENGTH", 2), "1");
             Checks.same("DEPTH 1 in 5 more", script.ran("ARRAY ARRAY ARRAY ARRAY ARRAY SELF", 2), "no room");
-            Checks.same("DEPTH of items", script.ran("PIPE ARRAY ARRAY ARRAY ARRAY ARRAY INDEX NUMBER:5000 ALL", 2),
-                    "[[[[[5]]]]] [[[[5]]]] [[[5]]] [[5]] [5] 5");
+            Checks.same("DEPTH 0 in 5 more", script.ran("ARRAY ARRAY ARRAY ARRAY ARRAY INDEX NUMBER:5000", 2),
+                    "[[[[[5]]]]]");
+            Checks.same("DEPTH 0 in 6 more", script.ran("ARRAY ARRAY ARRAY ARRAY ARRAY ARRAY INDEX NUMBER:5000", 2),
+                    "no room");
         }
     }
 
@@ -381,7 +383,8 @@ public final class TermsBoundariesTest {
 
     private static void orderOfObjects() {
         dueRising("OBJECT:3 NOTHING", "CALC:0 OBJECT:3 WORD:0 OBJECT:1 WORD:0", "OBJECT:0 WORD:0", "OBJECT:0 WORD:2",
-                "OBJECT:0 OBJECT:0 WORD:0", SIX_MEMBERS, SIX_MEMBERS + ";CALC:0 SELF OBJECT:6 WORD:1", FIVE_MEMBERS, "CALC:0 OBJECT:0 WORD:0 OBJECT:1 WORD:2",
+                "OBJECT:0 OBJECT:0 WORD:0", SIX_MEMBERS, SIX_MEMBERS + ";CALC:0 SELF OBJECT:6 WORD:1", FIVE_MEMBERS,
+                "CALC:0 OBJECT:0 WORD:0 OBJECT:1 WORD:2",
                 "CALC:0 OBJECT:0 WORD:1 OBJECT:1 WORD:0", "CALC:0 OBJECT:0 WORD:0 OBJECT:4 WORD:0", "OBJECT:2 WORD:0",
                 "OBJECT:1 WORD:0");
     }
@@ -714,7 +717,8 @@ public final class TermsBoundariesTest {
             "COMPARE:0 # NUMBER:0", "ARRAY PIPE # EMPTY", "BOTH WORD:2 #"};
         for (String filter : wholes) {
             Checks.same(filter + " with a row of 16 in it has ROOM",
-                    Boolean.toString(!Script.withStrings().ran(filter.replace("#", sixteen), 0).equals("no room")), "true");
+                    Boolean.toString(!Script.withStrings().ran(filter.replace("#", sixteen), 0).equals("no room")),
+                            "true");
             due("", filter.replace("#", more), "no room");
         }
         due("", "OR COMMA WORD:1 RANGE NUMBER:15000 SELF", numbers(15));
@@ -756,7 +760,8 @@ public final class TermsBoundariesTest {
 
     private static void values() {
         String run = "Promises 5 run and 9 number";
-        Checks.sentence("Promise 7 kind", "VALUES: NULL 0, FALSE 1, TRUE 2, NUMBER 3", TermsBoundariesTest::kindsAsNumbered);
+        Checks.sentence("Promise 7 kind", "VALUES: NULL 0, FALSE 1, TRUE 2, NUMBER 3",
+                TermsBoundariesTest::kindsAsNumbered);
         Checks.sentence(run, "S 0 .. 6", TermsBoundariesTest::scales);
         Checks.sentence(run, "and the least there is", TermsBoundariesTest::leastScales);
         Checks.sentence(run + ", the greatest", "M from -999999999 to 999999999", TermsBoundariesTest::greatestWholes);
@@ -769,7 +774,8 @@ public final class TermsBoundariesTest {
                 TermsBoundariesTest::names);
         Checks.sentence("Promises 5 run and 6 keep", "SIZE of a value: 1 and the SIZES of all values in it (names don't "
                 + "count), at most 24", TermsBoundariesTest::sizes);
-        Checks.sentence("Promise 5 run", "or 1 and the greatest DEPTH in it, for ARRAYS and OBJECTS", TermsBoundariesTest::depths);
+        Checks.sentence("Promise 5 run", "or 1 and the greatest DEPTH in it, for ARRAYS and OBJECTS",
+                TermsBoundariesTest::depths);
         Checks.sentence("Promise 5 run, kept values", "at most 5", TermsBoundariesTest::depthsOfKeptValues);
         Checks.sentence("Promise 5 run", "(1 with nothing in them), at most 5", TermsBoundariesTest::depthOfNothing);
         Checks.sentence("Promise 5 run", "GOOD are all but NULL and FALSE.", TermsBoundariesTest::goodValues);
@@ -791,7 +797,8 @@ public final class TermsBoundariesTest {
     private static void filters() {
         Checks.sentence("Promises 1, 5 and 6", "SLOTS 0 .. 7 hold a value each, NULL at first.",
                 TermsBoundariesTest::slotsAtFirst);
-        Checks.sentence("Promises 1 and 5", "STRINGS 0 .. 7 are TEXTS, empty at first", TermsBoundariesTest::stringsAtFirst);
+        Checks.sentence("Promises 1 and 5", "STRINGS 0 .. 7 are TEXTS, empty at first",
+                TermsBoundariesTest::stringsAtFirst);
         Checks.sentence("Promises 3 and 5", "each at most 32 TOKENS (op, a)", TermsBoundariesTest::tokensOfFilters);
         Checks.sentence("Promise 5 run", "a token and behind it its parts, so many expressions as are said; not more",
                 TermsBoundariesTest::partsOfTokens);
@@ -805,9 +812,11 @@ public final class TermsBoundariesTest {
     private static void rowsAndRoom() {
         String run = "Promise 5 run";
         Checks.sentence(run + ", no values", "comes to a ROW of values", TermsBoundariesTest::emptyRows);
-        Checks.sentence(run, "FOR EACH of a row means: in order; what comes of it is put behind", TermsBoundariesTest::inOrder);
+        Checks.sentence(run, "FOR EACH of a row means: in order; what comes of it is put behind",
+                TermsBoundariesTest::inOrder);
         Checks.sentence(run, "an ERROR there ends all", TermsBoundariesTest::errorsInside);
-        Checks.sentence(run, "if the row was ended by an ERROR, that ends all at last", TermsBoundariesTest::errorsAtLast);
+        Checks.sentence(run, "if the row was ended by an ERROR, that ends all at last",
+                TermsBoundariesTest::errorsAtLast);
         Checks.sentence(run, "ERRORS of tokens themselves have as their value the NUMBER 1 (a wrong kind), 2 (a rest by zero).",
                 TermsBoundariesTest::errorsOfTokens);
         Checks.sentence(run, "ROOM: what ends a run at once, not caught by TRY or OR", TermsBoundariesTest::notCaught);

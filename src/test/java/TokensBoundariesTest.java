@@ -147,7 +147,8 @@ public final class TokensBoundariesTest {
         Script script = Script.with("OBJECT:0 SELF");
         script.bench.letter(0, 'z');
         Checks.same("an OBJECT keeps its name", script.shown(0), "{a:null}");
-        Checks.same("an OBJECT with the new STRING", script.ran("COMMA SELF OBJECT:0 SELF", 0), "{a:null} {az:{a:null}}");
+        Checks.same("an OBJECT with the new STRING", script.ran("COMMA SELF OBJECT:0 SELF", 0),
+                "{a:null} {az:{a:null}}");
     }
 
     /** CALC a on all pairs of kinds; the wants are those of the pairs of one kind, and of NULL with others for a 0. */
@@ -578,10 +579,12 @@ public final class TokensBoundariesTest {
                 TokensBoundariesTest::pairs);
         test("a 0: x + y: NULL and anything: that; NUMBERS; TEXTS and ARRAYS: y behind x", TokensBoundariesTest::sums);
         test("OBJECTS: all members, y's for a name of both.", TokensBoundariesTest::sumsOfObjects);
-        test("a 1: x - y: NUMBERS; ARRAYS: the items of x that are ALIKE none of y.", TokensBoundariesTest::differences);
+        test("a 1: x - y: NUMBERS; ARRAYS: the items of x that are ALIKE none of y.",
+                TokensBoundariesTest::differences);
         test("a 2: x * y, exactly: NUMBERS.", TokensBoundariesTest::products);
         test("a 3: the rest of x / y, both rounded toward zero first to whole numbers", TokensBoundariesTest::rests);
-        test("(y 0 then: ERROR 2), with the sign of x: NUMBERS. Other kinds: ERROR 1.", TokensBoundariesTest::restsByZero);
+        test("(y 0 then: ERROR 2), with the sign of x: NUMBERS. Other kinds: ERROR 1.",
+                TokensBoundariesTest::restsByZero);
         test("by the ORDER x is (a) 0 ALIKE, 1 not, 2 before, 3 before or ALIKE, 4 behind, 5 behind or ALIKE y.",
                 TokensBoundariesTest::comparisons);
     }
@@ -611,14 +614,16 @@ public final class TokensBoundariesTest {
                 TokensBoundariesTest::keys);
         test("25 EMPTY: no value. 26 RAISE: ERROR with the value v.", TokensBoundariesTest::emptyAndRaise);
         test("27 SORT: an ARRAY's items by ORDER, ALIKE ones as they were; else ERROR 1.", TokensBoundariesTest::sort);
-        test("28 SUM: the items of an ARRAY added (as CALC 0) to NULL one by one; else ERROR 1.", TokensBoundariesTest::sum);
+        test("28 SUM: the items of an ARRAY added (as CALC 0) to NULL one by one; else ERROR 1.",
+                TokensBoundariesTest::sum);
         test("29 RANGE E: FOR EACH n of E on v: a NUMBER: 0, 1, .. as long as they are below it; else ERROR 1.",
                 TokensBoundariesTest::range);
         test("30 ALL: v, then ALL of each of its items or members' values, in order.", TokensBoundariesTest::all);
         test("31 LIMIT E: the first a values of E's row on v, a 0 .. 9", TokensBoundariesTest::limit);
         test("(its ERROR only if it has not so many", TokensBoundariesTest::limitAndErrors);
         test("with 0 E is not worked out)", TokensBoundariesTest::limitOfNone);
-        test("an ARRAY that item (a NUMBER; 0 or more, and rounded down below the length)", TokensBoundariesTest::hasItem);
+        test("an ARRAY that item (a NUMBER; 0 or more, and rounded down below the length)",
+                TokensBoundariesTest::hasItem);
         test("32 HAS E: FOR EACH i of E on v: whether an OBJECT has that name (a TEXT)", TokensBoundariesTest::hasName);
         test("and rounded down below the length); else ERROR 1.", TokensBoundariesTest::hasOfOthers);
         test("33 SELECT E: FOR EACH x of E on v: v if x is GOOD, else nothing.", TokensBoundariesTest::select);
