@@ -55,12 +55,6 @@ final class PlainBench {
         final List<Tree> parts = new ArrayList<>();
     }
 
-    private static final int[] PARTS = {
-        0, 0, 1, 0, 2, 2, 0, 0, 0, 1,
-        0, 1, 2, 2, 2, 2, 0, 3, 2, 2,
-        2, 0, 3, 0, 0, 0, 0, 0, 0, 1,
-        0, 1, 1, 1, 0};
-
     private final Object[] slots = new Object[8];
     private final String[] strings = new String[8];
     private final List<List<int[]>> filters = new ArrayList<>();
@@ -280,7 +274,7 @@ final class PlainBench {
         tree.op = tokens.get(read)[0];
         tree.a = tokens.get(read)[1];
         read++;
-        for (int k = 0; k < PARTS[tree.op]; k++) {
+        for (int k = 0; k < Script.PARTS[tree.op]; k++) {
             Tree part = read(tokens, outer + 1);
             if (part == null) {
                 return null;

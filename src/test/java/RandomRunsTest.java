@@ -5,11 +5,6 @@ import java.util.List;
 public final class RandomRunsTest {
     private static final int OBJECTS = 3000;
     private static final int CALLS = 512;
-    private static final int[] PARTS = {
-        0, 0, 1, 0, 2, 2, 0, 0, 0, 1,
-        0, 1, 2, 2, 2, 2, 0, 3, 2, 2,
-        2, 0, 3, 0, 0, 0, 0, 0, 0, 1,
-        0, 1, 1, 1, 0};
     private static final int[] CHOICES = {
         0, 8, 0, 0, 0, 0, 0, 8, 3, 0,
         0, 8, 4, 6, 0, 0, 0, 0, 0, 0,
@@ -100,12 +95,12 @@ public final class RandomRunsTest {
     /** Tokens of an expression that may be RIGHT: the deeper, the likelier one without parts. */
     private void expression(List<int[]> tokens, int outer, int deepest) {
         int op = draw(35);
-        for (int tries = 0; tries < 40 && (PARTS[op] > 0) != (outer < deepest && draw(10) < 7); tries++) {
+        for (int tries = 0; tries < 40 && (Script.PARTS[op] > 0) != (outer < deepest && draw(10) < 7); tries++) {
             op = draw(35);
         }
         int a = CHOICES[op] > 0 ? draw(CHOICES[op]) : op == 6 ? drawNumber() : draw(5) - 2;
         tokens.add(new int[] {op, a});
-        for (int k = 0; k < PARTS[op]; k++) {
+        for (int k = 0; k < Script.PARTS[op]; k++) {
             expression(tokens, outer + 1, deepest);
         }
     }

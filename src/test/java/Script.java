@@ -7,6 +7,12 @@ final class Script {
         "SELF", "FIELD", "INDEX", "EACH", "PIPE", "COMMA", "NUMBER", "STRING", "WORD", "ARRAY", "NOTHING", "OBJECT",
         "CALC", "COMPARE", "BOTH", "EITHER", "NOT", "IF", "TRY", "OR", "BIND", "VARIABLE", "REDUCE", "LENGTH", "KEYS",
         "EMPTY", "RAISE", "SORT", "SUM", "RANGE", "ALL", "LIMIT", "HAS", "SELECT", "FLOOR");
+    /** How many parts each op has. */
+    static final int[] PARTS = {
+        0, 0, 1, 0, 2, 2, 0, 0, 0, 1,
+        0, 1, 2, 2, 2, 2, 0, 3, 2, 2,
+        2, 0, 3, 0, 0, 0, 0, 0, 0, 1,
+        0, 1, 1, 1, 0};
     private static final String[] STRINGS = {"a", "b", "ab", "", "c", "d", "e", "twelve chars"};
     private static final int SHOWN_SLOT = 7;
 

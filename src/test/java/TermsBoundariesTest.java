@@ -6,6 +6,7 @@ public final class TermsBoundariesTest {
     private static final String FIVE_MEMBERS = "CALC:0 CALC:0 OBJECT:6 SELF OBJECT:1 SELF "
             + "CALC:0 OBJECT:2 SELF CALC:0 OBJECT:0 SELF OBJECT:4 SELF";
     private static final String SIX_MEMBERS = "CALC:0 OBJECT:5 SELF " + FIVE_MEMBERS;
+    private static final String SIX_OTHERS = SIX_MEMBERS.replace("SELF", "WORD:0");
     private static final String[] KINDS = {
         "WORD:0", "WORD:1", "WORD:2", "NUMBER:2500", "STRING:2", "ARRAY NUMBER:1000", "OBJECT:0 NUMBER:1000"};
 
@@ -190,6 +191,20 @@ public final class TermsBoundariesTest {
         due(SIX_MEMBERS, "PIPE KEYS LENGTH", "6");
         due(SIX_MEMBERS, "PIPE ARRAY COMMA SELF OBJECT:0 WORD:2 SUM", "{a:true,ab:null,b:null,c:null,d:null,e:null}");
         due(SIX_MEMBERS, "PIPE ARRAY COMMA SELF OBJECT:3 WORD:2 SUM", "no room");
+        membersOfOthers();
+    }
+
+    /** Six members and six others: names before, behind and between those of the first ones. */
+    private static void membersOfOthers() {
+        for (String other : new String[] {"A#", "x#", "#x"}) {
+            Script script = Script.with(SIX_MEMBERS);
+            for (int string = 0; string < 7; string++) {
+                script.spell(string, other.replace('#', (char) ('a' + string)));
+            }
+            Checks.same("six members and six others", script.ran("CALC:0 SELF " + SIX_OTHERS, 0), "no room");
+            Checks.same("six others and six members", script.ran("CALC:0 " + SIX_OTHERS + " SELF", 0), "no room");
+            Checks.same("six others alone", script.ran("PIPE " + SIX_OTHERS + " LENGTH", 1), "6");
+        }
     }
 
     private static void names() {
@@ -448,12 +463,6 @@ public final class TermsBoundariesTest {
         Checks.due("wipe of 32 TOKENS", () -> script.bench.wipe(0, 0), 32);
     }
 
-    private static final int[] PARTS = {
-        0, 0, 1, 0, 2, 2, 0, 0, 0, 1,
-        0, 1, 2, 2, 2, 2, 0, 3, 2, 2,
-        2, 0, 3, 0, 0, 0, 0, 0, 0, 1,
-        0, 1, 1, 1, 0};
-
     private static boolean isRight(String filter) {
         return !Script.withStrings().ran(filter, 0).equals("not right");
     }
@@ -464,12 +473,12 @@ public final class TermsBoundariesTest {
 
     private static void partsOfTokens() {
         Checks.due("an empty filter", () -> new FilterBench().run(0, 0), Checks.ELEMENT);
-        for (int op = 0; op < PARTS.length; op++) {
+        for (int op = 0; op < Script.PARTS.length; op++) {
             StringBuilder filter = new StringBuilder(Script.OPS.get(op));
             for (int selves = 0; selves < 5; selves++) {
-                dueRight(filter.toString(), selves == PARTS[op]);
-                dueRight("PIPE SELF " + filter, selves == PARTS[op]);
-                dueRight("COMMA " + filter + " SELF", selves == PARTS[op]);
+                dueRight(filter.toString(), selves == Script.PARTS[op]);
+                dueRight("PIPE SELF " + filter, selves == Script.PARTS[op]);
+                dueRight("COMMA " + filter + " SELF", selves == Script.PARTS[op]);
                 filter.append(" SELF");
             }
         }
@@ -509,15 +518,15 @@ public final class TermsBoundariesTest {
             return "SELF";
         }
         StringBuilder filter = new StringBuilder(Script.OPS.get(op));
-        for (int part = 0; part < PARTS[op]; part++) {
+        for (int part = 0; part < Script.PARTS[op]; part++) {
             filter.append(' ').append(part == which ? nested(op, which, times - 1) : "SELF");
         }
         return filter.toString();
     }
 
     private static void depthOfFilters() {
-        for (int op = 0; op < PARTS.length; op++) {
-            for (int which = 0; which < PARTS[op]; which++) {
+        for (int op = 0; op < Script.PARTS.length; op++) {
+            for (int which = 0; which < Script.PARTS[op]; which++) {
                 dueRight(nested(op, which, 6), true);
                 dueRight(nested(op, which, 7), true);
                 dueRight(nested(op, which, 8), false);
